@@ -328,14 +328,14 @@ public final class Promises {
         dueThrow("cheapest(0, 256)", x, ARGUMENT, () -> x.cheapest(0, 256));
     }
 
-    private static void cheapestOfRightTables() {
+    private static void cheapestOfErrorsThatCancelOut() {
         HalfTables x = new HalfTables();
-        // 5 + 3 = 8 and 5 - 3 = 2: 16 and 1 both lose or win the same 4.
         x.setCost(0, 1);
         x.setCost(1, 1);
         x.setCost(2, 50);
         x.flip(8, 2);
         due("cheapest(5, 3) with a wrong sum", x.cheapest(5, 3), 1);
+        // The entry 8 tells 20 for 16, the entry 2 tells 5 for 1.
         x.flip(2, 2);
         due("multiply(5, 3, 0), 20 - 5", x.multiply(5, 3, 0), 15);
         due("cheapest(5, 3) with errors that cancel out", x.cheapest(5, 3), 0);
@@ -357,7 +357,7 @@ public final class Promises {
             due("fraction(255, 255, 1, 16, way)", x.fraction(255, 255, 1, 16, way), way == 0 ? 0 : 1);
             due("fraction(128, 255, 1, 16, way)", x.fraction(128, 255, 1, 16, way), 0);
         }
-        // The entry 1 read as 6 makes 1 * 2 - 6 of 3 and 2.
+        // The entry 1 tells 6 for 0, and 1 * 2 is then 2 - 6.
         x.flip(1, 1);
         x.flip(1, 2);
         due("multiply(1, 2, 0)", x.multiply(1, 2, 0), -4);
@@ -462,6 +462,10 @@ public final class Promises {
         dueValues(x, 8, 511, 11, 12, 13, 3, 2, 6);
         x.setWidth(6);
         dueValues(x, 6, 127, 11, 12, 13, 0, 0, 0);
+        x.flip(0, 5);
+        dueValues(x, 6, 127, 11, 12, 13, 1, 1, 1);
+        x.flip(126, 5);
+        dueValues(x, 6, 127, 11, 12, 13, 2, 2, 2);
         dueThrow("value(-1)", x, ARGUMENT, () -> x.value(-1));
         dueThrow("value(8)", x, ARGUMENT, () -> x.value(8));
     }
@@ -536,9 +540,9 @@ public final class Promises {
         x.flip(0, 0);
         due("firstWrong()", x.firstWrong(), 1001);
         x.setWidth(3);
+        due("firstWrong() of a true table", x.firstWrong(), -1);
         x.flip(14, 0);
-        x.flip(0, 0);
-        due("firstWrong() with 7, 7 wrong or not", x.firstWrong(), 1001);
+        due("firstWrong()", x.firstWrong(), 7007);
     }
 
     private static void suspect() {
@@ -748,7 +752,7 @@ public final class Promises {
         Call[][] promises = {
             {Promises::newObject}, {Promises::setWidth}, {Promises::setCost}, {Promises::flip}, {Promises::repair},
             {Promises::repairByParity}, {Promises::setRegister}, {Promises::clearAccount}, {Promises::multiply},
-            {Promises::cost}, {Promises::cheapest, Promises::cheapestOfRightTables}, {Promises::fraction},
+            {Promises::cost}, {Promises::cheapest, Promises::cheapestOfErrorsThatCancelOut}, {Promises::fraction},
             {Promises::error}, {Promises::entry}, {Promises::register}, {Promises::value}, {Promises::account},
             {Promises::wrongPairs}, {Promises::wrongPairsWith}, {Promises::firstWrong}, {Promises::suspect},
             {Promises::cheaperPairs}, {Promises::append}, {Promises::clearText},
