@@ -9,7 +9,9 @@ import java.util.regex.Pattern;
 /** Runs of calls, the same ones each time, on the class and on a slow model written from the document. */
 public final class AgainstModel {
     private static final int RUNS = 400;
-    private static final int CALLS = 512;
+
+    /** An object answers 512 calls; the last one of each run is digest(). */
+    private static final int LAST = 511;
 
     private static final class Bad extends RuntimeException {
         private static final long serialVersionUID = 1;
@@ -562,7 +564,7 @@ public final class AgainstModel {
             number++;
             compare(x, model, 0, new int[] {3 + random.nextInt(4), 0, 0, 0, 0}, run, number);
         }
-        while (number < CALLS) {
+        while (number < LAST) {
             int call = random.nextInt(27);
             if (call == 0 && random.nextInt(8) != 0) {
                 call = 2;
@@ -574,13 +576,13 @@ public final class AgainstModel {
                 number++;
                 compare(x, model, 22, new int[5], run, number);
                 String text = text(random);
-                for (int i = 0; i < text.length() && number < CALLS; i++) {
+                for (int i = 0; i < text.length() && number < LAST; i++) {
                     number++;
                     compare(x, model, 21, new int[] {text.charAt(i), 0, 0, 0, 0}, run, number);
                 }
                 call = 23;
             }
-            if (number < CALLS) {
+            if (number < LAST) {
                 number++;
                 compare(x, model, call, arguments(random, model, call), run, number);
             }
@@ -592,7 +594,7 @@ public final class AgainstModel {
         for (int run = 0; run < RUNS; run++) {
             run(run);
         }
-        System.out.println(wrong == 0 ? RUNS + " runs are as in the model" : wrong + " answers are not as in the model");
+        System.out.println(wrong == 0 ? RUNS + " runs are as in the model" : wrong + " answers are not as the model's");
         if (wrong != 0) {
             System.exit(1);
         }
