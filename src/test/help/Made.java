@@ -1,5 +1,7 @@
 /** The objects that the tests of boundaries begin with. */
 final class Made {
+    static final String BUSY_TEXT = "a=3;b=a*h;c=b-a;";
+
     private Made() {
     }
 
@@ -34,7 +36,7 @@ final class Made {
     /** With other costs, wrong entries, registers, an account, a text, and four saved states that all differ. */
     static HalfTables busy(int width) {
         HalfTables x = ofWidth(width);
-        type(x, "a=3;b=a*h;c=b-a;");
+        type(x, BUSY_TEXT);
         x.setCost(0, 7);
         x.setCost(1, 5);
         x.setCost(2, 3);

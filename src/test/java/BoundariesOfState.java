@@ -321,6 +321,15 @@ public final class BoundariesOfState {
             Due.changesNothing("call " + i, Made::busyWithoutSaved, calls[i]);
             Due.changesNothing("call " + i, () -> Made.saved(2), calls[i]);
         }
+        Due.changesNothing("clearText() of no text", HalfTables::new, x -> x.clearText());
+        Due.Call sameText = x -> typedAgain(x, Made.BUSY_TEXT);
+        Due.changesNothing("clearText() and the same bytes again", () -> Made.busy(3), sameText);
+        Due.changesNothing("clearText() and the same bytes again", Made::busyWithoutSaved, sameText);
+    }
+
+    private static long typedAgain(HalfTables x, String text) {
+        Made.type(x, text);
+        return text.length();
     }
 
     private static void savedStates() {
@@ -401,6 +410,18 @@ public final class BoundariesOfState {
         }
         HalfTables x = withLastEntryWrong();
         Due.answer("digest() of width 8", x.digest(), hash(withLastEntryWrong(), 0, 1));
+        Due.answer("account()", withGreatAccount().account(), 400000);
+        Due.answer("digest() of a great account", withGreatAccount().digest(), hash(withGreatAccount(), 96, 4));
+    }
+
+    private static HalfTables withGreatAccount() {
+        HalfTables x = Made.withCosts(50, 50, 50);
+        x.setWidth(3);
+        Made.type(x, "a=b*c;".repeat(16));
+        for (int i = 0; i < 100; i++) {
+            x.run();
+        }
+        return x;
     }
 
     private static HalfTables withLastEntryWrong() {
