@@ -2,6 +2,7 @@ import java.util.Arrays;
 
 /** Two multipliers side by side: one by a table of quarters of squares, one by shifts and additions. */
 public final class HalfTables {
+    /** There is no such thing. */
     public static final int NONE = -1;
 
     private static final int MIN_WIDTH = 3;
