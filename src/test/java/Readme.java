@@ -63,10 +63,10 @@ public final class Readme {
         }
     }
 
-    /** Runs the lines of a block. Returns what they print. */
+    /** Runs the lines of a block. Returns what they print, without what java may say of its options. */
     private static String printed(String commands, Path folder) throws Exception {
         Process process = new ProcessBuilder("sh", "-eu", "-c", commands)
-            .directory(folder.toFile()).redirectErrorStream(true).start();
+            .directory(folder.toFile()).redirectError(ProcessBuilder.Redirect.INHERIT).start();
         String printed = new String(process.getInputStream().readAllBytes(), StandardCharsets.UTF_8);
         due("the exit code of " + commands, process.waitFor(), 0);
         return printed;
